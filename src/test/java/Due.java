@@ -1,0 +1,64 @@
+/** Compares what calls answered with what is due, and tells what is wrong. */
+final class Due {
+    interface Call {
+        long answer();
+    }
+
+    private static int checks = 0;
+    private static int wrong = 0;
+
+    private Due() {
+    }
+
+    static void same(String call, long got, long want) {
+        checks++;
+        if (got != want) {
+            tell(call + " answered " + got + ", due is " + want);
+        }
+    }
+
+    static void sameDouble(String call, double got, double want) {
+        checks++;
+        if (got != want) {
+            tell(call + " answered " + got + ", due is " + want);
+        }
+    }
+
+    static void refuses(String what, Class<? extends RuntimeException> want, Call call) {
+        checks++;
+        String due = ", due is throws." + want.getSimpleName();
+        try {
+            tell(what + " answered " + call.answer() + due);
+        } catch (RuntimeException thrown) {
+            if (thrown.getClass() != want) {
+                tell(what + " answered throws." + thrown.getClass().getSimpleName() + due);
+            }
+        }
+    }
+
+    static void index(String what, Call call) {
+        refuses(what, IndexOutOfBoundsException.class, call);
+    }
+
+    static void argument(String what, Call call) {
+        refuses(what, IllegalArgumentException.class, call);
+    }
+
+    static void state(String what, Call call) {
+        refuses(what, IllegalStateException.class, call);
+    }
+
+    static void tell(String fault) {
+        wrong++;
+        if (wrong <= 20) {
+            System.out.println(fault);
+        }
+    }
+
+    static void close(String test) {
+        System.out.println(test + ": " + checks + " answers looked at, " + wrong + " wrong");
+        if (wrong != 0 || checks == 0) {
+            System.exit(1);
+        }
+    }
+}
