@@ -74,7 +74,7 @@ public final class TubePost {
         Station start = knownStation(from);
         Station end = knownStation(to);
         if (start == end || isOutside(length, 1, LENGTH_AT_MOST) || isOutside(bore, 1, BORE_AT_MOST)) {
-            throw new IllegalArgumentException("a tube leads to another station, its length is 1 to 60, its bore 1 to 8");
+            throw new IllegalArgumentException("a tube leads to another station, a length is 1 to 60, a bore 1 to 8");
         }
         refuseWrongSpeed(speed);
         if (net.tubes.size() >= TUBES_AT_MOST || start.ways.size() >= WAYS_AT_MOST) {
@@ -97,8 +97,7 @@ public final class TubePost {
         Tube changed = knownTube(tube);
         refuseWrongSpeed(speed);
         int before = changed.speed;
-        net.setSpeed(changed, speed);
-        net.openOrShut(changed, isOpen);
+        net.set(changed, speed, isOpen);
         return before;
     }
 
@@ -328,7 +327,8 @@ public final class TubePost {
     // addEntry has looked at what and how, and nothing is ever taken away: in each branch they are there.
     private void carryOut(Entry entry) {
         if (entry.sort == SORT_TUBE && net.hasTube(entry.what)) {
-            net.openOrShut(net.tubes.get(entry.what), entry.how == 1);
+            Tube tube = net.tubes.get(entry.what);
+            net.set(tube, tube.speed, entry.how == 1);
         } else if (entry.sort == SORT_SWITCH && net.hasStation(entry.what)) {
             net.stations.get(entry.what).switchedTo = entry.how;
         } else if (entry.sort == SORT_SEND && net.hasStation(entry.what) && net.hasStation(entry.how)) {
@@ -622,12 +622,8 @@ public final class TubePost {
             return number >= 0 && number < tubes.size();
         }
 
-        private void setSpeed(Tube tube, int speed) {
+        private void set(Tube tube, int speed, boolean isOpen) {
             tube.speed = speed;
-            forgetTimes();
-        }
-
-        private void openOrShut(Tube tube, boolean isOpen) {
             tube.isOpen = isOpen;
             forgetTimes();
         }

@@ -30,10 +30,17 @@ final class Due {
         try {
             tell(what + " answered " + call.answer() + due);
         } catch (RuntimeException thrown) {
-            if (thrown.getClass() != want) {
-                tell(what + " answered throws." + thrown.getClass().getSimpleName() + due);
+            if (thrown.getClass() != want || !isThrownByThePost(thrown)) {
+                tell(what + " answered throws." + thrown.getClass().getSimpleName()
+                        + (isThrownByThePost(thrown) ? "" : " from elsewhere") + due);
             }
         }
+    }
+
+    /** Whether the class threw it itself: what a list or the machine throws must not come out of it. */
+    static boolean isThrownByThePost(RuntimeException thrown) {
+        StackTraceElement[] rows = thrown.getStackTrace();
+        return rows.length > 0 && rows[0].getClassName().startsWith("TubePost");
     }
 
     static void index(String what, Call call) {

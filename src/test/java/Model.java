@@ -23,7 +23,7 @@ final class Model {
     }
 
     static final class Clockwork {
-        int first, period, sort, what, how;
+        int next, period, sort, what, how;
     }
 
     final List<Stop> stops = new ArrayList<>();
@@ -116,7 +116,7 @@ final class Model {
         }
         state(table.size() < 12);
         Clockwork e = new Clockwork();
-        e.first = first;
+        e.next = first;
         e.period = period;
         e.sort = sort;
         e.what = what;
@@ -195,13 +195,10 @@ final class Model {
 
     private void clock() {
         for (Clockwork e : table) {
-            boolean due = now == e.first;
-            for (long t = e.first; e.period > 0 && t <= now; t += e.period) {
-                due |= t == now;
-            }
-            if (!due) {
+            if (now != e.next) {
                 continue;
             }
+            e.next = e.period == 0 ? -1 : now + e.period;
             if (e.sort == 0) {
                 turn(e.what, e.how);
             } else if (e.sort == 1) {
@@ -241,8 +238,8 @@ final class Model {
         }
         for (int s = 0; s < stops.size(); s++) {
             for (Letter l : waiting(s)) {
-                int way = next(s, l.aim);
-                if (now < l.since + stops.get(s).handling || way == -1) {
+                int way = now < l.since + stops.get(s).handling ? -1 : next(s, l.aim);
+                if (way == -1) {
                     continue;
                 }
                 int t = stops.get(s).out.get(way);

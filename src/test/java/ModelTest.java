@@ -2,7 +2,7 @@ import java.util.Random;
 
 /** Random runs of 512 calls, each answer and each exception against the Model's. */
 public final class ModelTest {
-    private static final int RUNS = 400;
+    private static final int RUNS = 200;
     private static final int CALLS = 512;
     private static final int[] WILD = {Integer.MIN_VALUE, Integer.MAX_VALUE, -1000000, -2, -1, 0, 1, 2, 14, 30, 40, 500,
         501, 100000, 100001, 1000000};
@@ -17,7 +17,7 @@ public final class ModelTest {
     private ModelTest(int seed) {
         random = new Random(seed);
         stations = 2 + random.nextInt(13);
-        longestRun = new int[] {1, 3, 10, 40, 500}[random.nextInt(5)];
+        longestRun = new int[] {1, 3, 10, 40, 150}[random.nextInt(5)];
         wildness = new int[] {0, 2, 10}[random.nextInt(3)];
     }
 
@@ -38,7 +38,9 @@ public final class ModelTest {
             } else {
                 anyCall(before);
             }
-            Due.same(before + "digest() behind it", post.digest(), model.digest());
+            if (call % 4 == 3) {
+                Due.same(before + "digest() behind it", post.digest(), model.digest());
+            }
         }
     }
 
@@ -64,28 +66,22 @@ public final class ModelTest {
         return pick(-1, isThere ? model.stops.get(station).out.size() - 1 : 0);
     }
 
-    private void both(String call, Due.Call ours, Due.Call theirs) {
-        Due.same(call, answer(ours), answer(theirs));
+    private static void both(String call, Due.Call ours, Due.Call theirs) {
+        Due.same(call, answer(ours, true), answer(theirs, false));
     }
 
-    // The machine's own exceptions (of an index, say) are classes below these or others, and count as neither.
-    private static long answer(Due.Call call) {
+    private static long answer(Due.Call call, boolean isOurs) {
         try {
             return call.answer();
         } catch (RuntimeException thrown) {
-            if (thrown.getClass() == IndexOutOfBoundsException.class && !byTheLibrary(thrown)) {
+            if (isOurs && !Due.isThrownByThePost(thrown)) {
                 return Long.MIN_VALUE;
             }
-            if (thrown.getClass() == IllegalArgumentException.class) {
-                return Long.MIN_VALUE + 1;
-            }
-            return thrown.getClass() == IllegalStateException.class ? Long.MIN_VALUE + 2 : Long.MIN_VALUE + 3;
+            Class<?> kind = thrown.getClass();
+            return kind == IndexOutOfBoundsException.class ? Long.MIN_VALUE + 1
+                    : kind == IllegalArgumentException.class ? Long.MIN_VALUE + 2
+                    : kind == IllegalStateException.class ? Long.MIN_VALUE + 3 : Long.MIN_VALUE + 4;
         }
-    }
-
-    private static boolean byTheLibrary(RuntimeException thrown) {
-        StackTraceElement[] rows = thrown.getStackTrace();
-        return rows.length > 0 && rows[0].getClassName().startsWith("java.");
     }
 
     private void addStation(String before) {

@@ -124,8 +124,14 @@ public final class TellingTest {
         post.setTube(2, 1, true);
         post.turn(0, 1);
         Due.same("with a switch", post.time(0, 2), 11);
-        Due.index("time(4, 0)", () -> post.time(4, 0));
-        Due.index("time(0, 4)", () -> post.time(0, 4));
+        Due.same("still no way", post.time(0, 3), -1);
+        post.addTube(2, 3, 1, 1, 1);
+        Due.same("by a tube that was laid later", post.time(0, 3), 17);
+        post.addStation(1, 0);
+        post.addTube(3, 4, 1, 1, 1);
+        Due.same("to a station that was added later", post.time(0, 4), 23);
+        Due.index("time(5, 0)", () -> post.time(5, 0));
+        Due.index("time(0, 5)", () -> post.time(0, 5));
         Due.index("time(-1, -1)", () -> post.time(-1, -1));
     }
 
