@@ -477,6 +477,7 @@ public final class TubePost {
         /** Who is in it, in the order in which they entered. */
         private final ArrayList<Carrier> inside;
         private int speed;
+        private int timeThrough;
         private boolean isOpen;
         private int entered;
         private int lastEntryAt;
@@ -488,13 +489,19 @@ public final class TubePost {
             this.length = length;
             this.bore = bore;
             this.speed = speed;
+            timeThrough = dividedUp(length, speed);
             inside = new ArrayList<>();
             isOpen = true;
             entered = 0;
             lastEntryAt = 0;
         }
 
-        private int timeThrough() {
+        private void setSpeed(int changed) {
+            speed = changed;
+            timeThrough = dividedUp(length, changed);
+        }
+
+        private static int dividedUp(int length, int speed) {
             // No speed but 1 to 6 comes here; the test keeps the division safe by itself.
             return speed < 1 ? NEVER : (length + speed - 1) / speed;
         }
@@ -548,7 +555,7 @@ public final class TubePost {
             state = IN_TUBE;
             place = tube.number;
             since = tick;
-            timeInTube = tube.timeThrough();
+            timeInTube = tube.timeThrough;
             tubesEntered++;
             tube.inside.add(this);
             tube.entered++;
@@ -623,7 +630,7 @@ public final class TubePost {
         }
 
         private void set(Tube tube, int speed, boolean isOpen) {
-            tube.speed = speed;
+            tube.setSpeed(speed);
             tube.isOpen = isOpen;
             forgetTimes();
         }
@@ -668,23 +675,18 @@ public final class TubePost {
             times[aim.number] = 0;
             boolean isShorter = true;
             for (int round = 0; isShorter && round < stations.size(); round++) {
-                isShorter = shorten(times, aim);
+                isShorter = false;
+                for (int i = 0; i < tubes.size(); i++) {
+                    Tube tube = tubes.get(i);
+                    int taken = timeBy(tube, aim, times);
+                    if (taken < times[tube.from.number]) {
+                        times[tube.from.number] = taken;
+                        isShorter = true;
+                    }
+                }
             }
             isReckoned[aim.number] = true;
             return times;
-        }
-
-        private boolean shorten(int[] times, Station aim) {
-            boolean isShorter = false;
-            for (int i = 0; i < tubes.size(); i++) {
-                Tube tube = tubes.get(i);
-                int taken = timeBy(tube, aim, times);
-                if (taken < times[tube.from.number]) {
-                    times[tube.from.number] = taken;
-                    isShorter = true;
-                }
-            }
-            return isShorter;
         }
 
         /** The time to the aim through this tube and on, NEVER if it is shut or there is no way on. */
@@ -694,7 +696,7 @@ public final class TubePost {
                 return NEVER;
             }
             int handling = tube.to == aim ? 0 : tube.to.handling;
-            return tube.timeThrough() + handling + rest;
+            return tube.timeThrough + handling + rest;
         }
 
         private int pairsPartedWithout(Tube shut) {
