@@ -1,3 +1,5 @@
+import java.util.function.IntUnaryOperator;
+
 /** Compares what calls answered with what is due, and tells what is wrong. */
 final class Due {
     interface Call {
@@ -53,6 +55,30 @@ final class Due {
 
     static void state(String what, Call call) {
         refuses(what, IllegalStateException.class, call);
+    }
+
+    /** Refuses the numbers just outside of least to most, and those far out. */
+    static void refusesOutside(String what, int least, int most, Class<? extends RuntimeException> want,
+            IntUnaryOperator call) {
+        for (int number : new int[] {Integer.MIN_VALUE, least - 1, most + 1, Integer.MAX_VALUE}) {
+            refuses(what + " with " + number, want, () -> call.applyAsInt(number));
+        }
+    }
+
+    static void indexOutside(String what, int least, int most, IntUnaryOperator call) {
+        refusesOutside(what, least, most, IndexOutOfBoundsException.class, call);
+    }
+
+    static void argumentOutside(String what, int least, int most, IntUnaryOperator call) {
+        refusesOutside(what, least, most, IllegalArgumentException.class, call);
+    }
+
+    /** What a call tells for the whats 0, 1, 2 .., and that it tells nothing outside of them. */
+    static void tells(String what, IntUnaryOperator call, int... due) {
+        for (int i = 0; i < due.length; i++) {
+            same(what + ", what " + i, call.applyAsInt(i), due[i]);
+        }
+        indexOutside(what + ", what", 0, due.length - 1, call);
     }
 
     static void tell(String fault) {

@@ -1,9 +1,10 @@
 import java.util.Random;
 
-/** Random runs of 512 calls, each answer and each exception against the Model's. */
+/** Random runs of up to 512 calls, as many as an object is for, each answer and each exception against the Model's. */
 public final class ModelTest {
-    private static final int RUNS = 200;
+    private static final int RUNS = 500;
     private static final int CALLS = 512;
+    private static final int CALLS_OF_A_LOOK = 9;
     private static final int[] WILD = {Integer.MIN_VALUE, Integer.MAX_VALUE, -1000000, -2, -1, 0, 1, 2, 14, 30, 40, 500,
         501, 100000, 100001, 1000000};
 
@@ -13,6 +14,7 @@ public final class ModelTest {
     private final int stations;
     private final int longestRun;
     private final int wildness;
+    private int calls = 0;
 
     private ModelTest(int seed) {
         random = new Random(seed);
@@ -29,17 +31,17 @@ public final class ModelTest {
     }
 
     private void play(int seed) {
-        for (int call = 0; call < CALLS; call++) {
-            String before = "run " + seed + ", call " + call + ": ";
-            if (call < stations) {
+        for (int step = 0; calls + CALLS_OF_A_LOOK + 1 <= CALLS; step++) {
+            String before = "run " + seed + ", step " + step + ": ";
+            if (step < stations) {
                 addStation(before);
-            } else if (call < 3 * stations) {
+            } else if (step < 3 * stations) {
                 addTube(before);
             } else {
                 anyCall(before);
             }
-            if (call % 4 == 3) {
-                Due.same(before + "digest() behind it", post.digest(), model.digest());
+            if (step % 4 == 3) {
+                both(before + "digest() behind it", post::digest, model::digest);
             }
         }
     }
@@ -66,7 +68,8 @@ public final class ModelTest {
         return pick(-1, isThere ? model.stops.get(station).out.size() - 1 : 0);
     }
 
-    private static void both(String call, Due.Call ours, Due.Call theirs) {
+    private void both(String call, Due.Call ours, Due.Call theirs) {
+        calls++;
         Due.same(call, answer(ours, true), answer(theirs, false));
     }
 
@@ -155,7 +158,8 @@ public final class ModelTest {
         both(before + "time" + with, () -> post.time(station, aim), () -> model.time(station, aim));
         both(before + "next" + with, () -> post.next(station, aim), () -> model.next(station, aim));
         both(before + "parts" + with, () -> post.parts(tube), () -> model.parts(tube));
-        Due.sameDouble(before + "mean()", post.mean(), model.mean());
+        both(before + "mean()" + with, () -> Double.doubleToLongBits(post.mean()),
+                () -> Double.doubleToLongBits(model.mean()));
     }
 
     private void anyCall(String before) {
@@ -164,15 +168,15 @@ public final class ModelTest {
             send(before);
         } else if (choice < 60) {
             run(before);
-        } else if (choice < 80) {
+        } else if (choice < 70) {
             look(before);
-        } else if (choice < 86) {
+        } else if (choice < 78) {
             setTube(before);
-        } else if (choice < 92) {
+        } else if (choice < 86) {
             turn(before);
-        } else if (choice < 95) {
+        } else if (choice < 90) {
             addTube(before);
-        } else if (choice < 98) {
+        } else if (choice < 97) {
             addEntry(before);
         } else {
             addStation(before);

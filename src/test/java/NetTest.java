@@ -18,14 +18,6 @@ public final class NetTest {
         Due.close("NetTest");
     }
 
-    private static TubePost stations(int many, int room, int handling) {
-        TubePost post = new TubePost();
-        for (int i = 0; i < many; i++) {
-            post.addStation(room, handling);
-        }
-        return post;
-    }
-
     private static void newObject() {
         TubePost post = new TubePost();
         for (int what = 0; what <= 8; what++) {
@@ -57,7 +49,7 @@ public final class NetTest {
     }
 
     private static void tubes() {
-        TubePost post = stations(3, 1, 0);
+        TubePost post = Nets.stations(3, 1, 0);
         Due.same("addTube(0, 1, 1, 1, 1)", post.addTube(0, 1, 1, 1, 1), 0);
         Due.same("addTube(1, 0, 60, 6, 8)", post.addTube(1, 0, 60, 6, 8), 1);
         Due.index("addTube(-1, 1, ..)", () -> post.addTube(-1, 1, 1, 1, 1));
@@ -81,7 +73,7 @@ public final class NetTest {
     }
 
     private static void tubeLimits() {
-        TubePost post = stations(14, 1, 0);
+        TubePost post = Nets.stations(14, 1, 0);
         for (int i = 0; i < 4; i++) {
             Due.same("way out " + i, post.addTube(0, 1 + i, 1, 1, 1), i);
         }
@@ -99,7 +91,7 @@ public final class NetTest {
     }
 
     private static void turn() {
-        TubePost post = stations(2, 1, 0);
+        TubePost post = Nets.stations(2, 1, 0);
         post.addTube(0, 1, 1, 1, 1);
         post.addTube(0, 1, 1, 1, 1);
         Due.same("switch at first", post.station(0, 3), -1);
@@ -117,7 +109,7 @@ public final class NetTest {
     }
 
     private static void setTube() {
-        TubePost post = stations(2, 9, 0);
+        TubePost post = Nets.stations(2, 9, 0);
         post.addTube(0, 1, 12, 3, 2);
         Due.same("setTube(0, 6, false)", post.setTube(0, 6, false), 3);
         Due.same("speed", post.tube(0, 3), 6);
@@ -141,7 +133,7 @@ public final class NetTest {
     }
 
     private static void entryArguments() {
-        TubePost post = stations(2, 1, 0);
+        TubePost post = Nets.stations(2, 1, 0);
         post.addTube(0, 1, 1, 1, 1);
         post.run(10);
         Due.argument("first 10 at 10", () -> post.addEntry(10, 0, 0, 0, 0));
@@ -171,7 +163,7 @@ public final class NetTest {
     }
 
     private static void entryOrderOfExceptions() {
-        TubePost post = stations(1, 1, 0);
+        TubePost post = Nets.stations(1, 1, 0);
         Due.argument("first 0, no station", () -> post.addEntry(0, 0, 0, 7, 7));
         Due.argument("sort 3, no station", () -> post.addEntry(1, 0, 3, 7, 7));
         for (int i = 0; i < 12; i++) {
@@ -184,7 +176,7 @@ public final class NetTest {
     }
 
     private static void entryLimits() {
-        TubePost post = stations(2, 9, 0);
+        TubePost post = Nets.stations(2, 9, 0);
         for (int i = 0; i < 200; i++) {
             post.run(500);
         }
@@ -194,7 +186,7 @@ public final class NetTest {
     }
 
     private static void clockTurnsSwitches() {
-        TubePost post = stations(2, 1, 0);
+        TubePost post = Nets.stations(2, 1, 0);
         post.addTube(0, 1, 1, 1, 1);
         post.addTube(0, 1, 1, 1, 1);
         post.addEntry(3, 4, 0, 0, 1);
@@ -208,7 +200,7 @@ public final class NetTest {
     }
 
     private static void clockOpensAndShuts() {
-        TubePost post = stations(2, 9, 0);
+        TubePost post = Nets.stations(2, 9, 0);
         post.addTube(0, 1, 10, 5, 1);
         post.addEntry(2, 0, 1, 0, 0);
         post.addEntry(4, 0, 1, 0, 1);
@@ -251,7 +243,7 @@ public final class NetTest {
     }
 
     private static void clockCannotSend() {
-        TubePost post = stations(2, 1, 0);
+        TubePost post = Nets.stations(2, 1, 0);
         post.addEntry(1, 1, 2, 0, 0);
         post.addEntry(2, 1, 2, 0, 1);
         post.addEntry(2, 1, 2, 0, 1);
@@ -263,7 +255,7 @@ public final class NetTest {
     }
 
     private static void clockKeepsItsOrder() {
-        TubePost post = stations(2, 9, 0);
+        TubePost post = Nets.stations(2, 9, 0);
         post.addTube(0, 1, 1, 1, 1);
         post.addTube(0, 1, 1, 1, 1);
         post.addEntry(1, 1, 0, 0, 0);

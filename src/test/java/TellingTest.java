@@ -1,4 +1,4 @@
-/** Promises 10 to 18: what is there, ways, the mean and the checksum. */
+/** Promises 10 to 17: what is there, ways and the mean (the checksum, promise 18, is ToldTest's). */
 public final class TellingTest {
     public static void main(String[] args) {
         count();
@@ -11,8 +11,6 @@ public final class TellingTest {
         parts();
         partsOfAShutTube();
         mean();
-        digestOfNothing();
-        digestFollowsTheDocument();
         Due.close("TellingTest");
     }
 
@@ -228,53 +226,5 @@ public final class TellingTest {
         post.send(1, 0, 0);
         post.run(10);
         Due.sameDouble("mean of three", post.mean(), 16.0 / 3.0);
-    }
-
-    private static void digestOfNothing() {
-        long due = 457;
-        for (int i = 0; i < 9; i++) {
-            due *= 31;
-        }
-        Due.same("digest of a new object", new TubePost().digest(), due);
-    }
-
-    private static void digestFollowsTheDocument() {
-        TubePost post = pair(3, 2, 2);
-        post.addStation(1, 0);
-        post.addTube(1, 2, 1, 1, 1);
-        post.addEntry(4, 3, 2, 1, 0);
-        for (int i = 0; i < 40; i++) {
-            if (post.station(0, 4) < 3) {
-                post.send(0, 1 + i % 2, i % 4);
-            }
-            post.run(1);
-            Due.same("digest at " + i, post.digest(), digestOf(post));
-        }
-    }
-
-    private static long digestOf(TubePost post) {
-        long sum = 457;
-        for (int what = 0; what <= 8; what++) {
-            sum = sum * 31 + post.count(what);
-        }
-        for (int i = 0; i < post.count(1); i++) {
-            for (int what = 0; what <= 5; what++) {
-                sum = sum * 31 + post.station(i, what);
-            }
-            for (int index = 0; index < post.station(i, 4); index++) {
-                sum = sum * 31 + post.there(i, index);
-            }
-        }
-        for (int i = 0; i < post.count(2); i++) {
-            for (int what = 0; what <= 8; what++) {
-                sum = sum * 31 + post.tube(i, what);
-            }
-        }
-        for (int i = 0; i < post.count(4); i++) {
-            for (int what = 0; what <= 6; what++) {
-                sum = sum * 31 + post.carrier(i, what);
-            }
-        }
-        return sum;
     }
 }
