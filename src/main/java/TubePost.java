@@ -438,6 +438,11 @@ public final class TubePost {
         private final ArrayList<Tube> ways;
         /** Who is here, in the order in which they would depart. */
         private final ArrayList<Carrier> line;
+        /** From each station the least time to this one, kept until the net changes: in most ticks it does not. */
+        private final int[] timesToHere;
+        private boolean isReckoned;
+        /** A bit for each station that can be come to from this one. */
+        private int reach;
         private int switchedTo;
         private int received;
 
@@ -447,6 +452,9 @@ public final class TubePost {
             this.handling = handling;
             ways = new ArrayList<>();
             line = new ArrayList<>();
+            timesToHere = new int[STATIONS_AT_MOST];
+            isReckoned = false;
+            reach = 0;
             switchedTo = FREE;
             received = 0;
         }
@@ -465,6 +473,18 @@ public final class TubePost {
                 place--;
             }
             line.add(place, carrier);
+        }
+
+        private int timeFrom(Station start) {
+            int place = start.number;
+            return place >= 0 && place < timesToHere.length ? timesToHere[place] : NEVER;
+        }
+
+        private void keepTimeFrom(Station start, int time) {
+            int place = start.number;
+            if (place >= 0 && place < timesToHere.length) {
+                timesToHere[place] = time;
+            }
         }
     }
 
@@ -591,20 +611,10 @@ public final class TubePost {
     private static final class Net {
         private final ArrayList<Station> stations;
         private final ArrayList<Tube> tubes;
-        /** A row for each aim, kept until the net changes: in most ticks it does not. */
-        private final int[][] timesToAims;
-        private final boolean[] isReckoned;
-        /** For each station, a bit for each one that can be come to from it. */
-        private final int[] reach;
-        private final int[] reachWithout;
 
         private Net() {
             stations = new ArrayList<>();
             tubes = new ArrayList<>();
-            timesToAims = new int[STATIONS_AT_MOST][STATIONS_AT_MOST];
-            isReckoned = new boolean[STATIONS_AT_MOST];
-            reach = new int[STATIONS_AT_MOST];
-            reachWithout = new int[STATIONS_AT_MOST];
         }
 
         private int build(int room, int handling) {
@@ -636,13 +646,14 @@ public final class TubePost {
         }
 
         private void forgetTimes() {
-            for (int i = 0; i < isReckoned.length; i++) {
-                isReckoned[i] = false;
+            for (int i = 0; i < stations.size(); i++) {
+                stations.get(i).isReckoned = false;
             }
         }
 
         private int leastTime(Station from, Station aim) {
-            return timesTo(aim)[from.number];
+            reckonTimesTo(aim);
+            return aim.timeFrom(from);
         }
 
         /** The way out that is taken for the aim, NO_WAY if there is none. */
@@ -653,11 +664,12 @@ public final class TubePost {
             if (from.switchedTo != FREE) {
                 return from.switchedTo;
             }
-            int[] times = timesTo(aim);
+            reckonTimesTo(aim);
             int best = NO_WAY;
             int least = NEVER;
             for (int way = 0; way < from.ways.size(); way++) {
-                int taken = timeBy(from.ways.get(way), aim, times);
+                Tube tube = from.ways.get(way);
+                int taken = timeBy(tube, aim, aim.timeFrom(tube.to));
                 if (taken < least) {
                     least = taken;
                     best = way;
@@ -666,32 +678,29 @@ public final class TubePost {
             return best;
         }
 
-        private int[] timesTo(Station aim) {
-            int[] times = timesToAims[aim.number];
-            if (isReckoned[aim.number]) {
-                return times;
+        private void reckonTimesTo(Station aim) {
+            if (aim.isReckoned) {
+                return;
             }
-            Arrays.fill(times, NEVER);
-            times[aim.number] = 0;
+            Arrays.fill(aim.timesToHere, NEVER);
+            aim.keepTimeFrom(aim, 0);
             boolean isShorter = true;
             for (int round = 0; isShorter && round < stations.size(); round++) {
                 isShorter = false;
                 for (int i = 0; i < tubes.size(); i++) {
                     Tube tube = tubes.get(i);
-                    int taken = timeBy(tube, aim, times);
-                    if (taken < times[tube.from.number]) {
-                        times[tube.from.number] = taken;
+                    int taken = timeBy(tube, aim, aim.timeFrom(tube.to));
+                    if (taken < aim.timeFrom(tube.from)) {
+                        aim.keepTimeFrom(tube.from, taken);
                         isShorter = true;
                     }
                 }
             }
-            isReckoned[aim.number] = true;
-            return times;
+            aim.isReckoned = true;
         }
 
-        /** The time to the aim through this tube and on, NEVER if it is shut or there is no way on. */
-        private int timeBy(Tube tube, Station aim, int[] timesToAim) {
-            int rest = timesToAim[tube.to.number];
+        /** The time to the aim through this tube and the rest behind it, NEVER if it is shut or there is no way on. */
+        private static int timeBy(Tube tube, Station aim, int rest) {
             if (!tube.isOpen || rest == NEVER) {
                 return NEVER;
             }
@@ -699,31 +708,37 @@ public final class TubePost {
             return tube.timeThrough + handling + rest;
         }
 
+        // A tube that is shut makes no new way: what it parts is what is missing then. The pairs of a station with
+        // itself are there in any case.
         private int pairsPartedWithout(Tube shut) {
-            reckonReach(reach, NO_TUBE);
-            reckonReach(reachWithout, shut.number);
+            return pairsWithAWay(NO_TUBE) - pairsWithAWay(shut.number);
+        }
+
+        private int pairsWithAWay(int leftOut) {
+            reckonReach(leftOut);
             int pairs = 0;
             for (int i = 0; i < stations.size(); i++) {
-                pairs += Integer.bitCount(reach[i] & ~reachWithout[i]);
+                pairs += Integer.bitCount(stations.get(i).reach);
             }
             return pairs;
         }
 
-        // Each station reaches itself in any case, so that no pair of one station is ever parted.
-        private void reckonReach(int[] reached, int leftOut) {
+        private void reckonReach(int leftOut) {
             for (int i = 0; i < stations.size(); i++) {
-                reached[i] = 1 << i;
+                stations.get(i).reach = 1 << i;
             }
             for (int i = 0; i < tubes.size(); i++) {
                 Tube tube = tubes.get(i);
                 if (tube.isOpen && i != leftOut) {
-                    reached[tube.from.number] |= 1 << tube.to.number;
+                    tube.from.reach |= 1 << tube.to.number;
                 }
             }
             for (int between = 0; between < stations.size(); between++) {
+                int reachOn = stations.get(between).reach;
                 for (int i = 0; i < stations.size(); i++) {
-                    if ((reached[i] & 1 << between) != 0) {
-                        reached[i] |= reached[between];
+                    Station start = stations.get(i);
+                    if ((start.reach & 1 << between) != 0) {
+                        start.reach |= reachOn;
                     }
                 }
             }
